@@ -1,0 +1,118 @@
+/** Counts the answers that are not as due, and ends a test with exit code 1 if there was one. */
+final class Check {
+    static final int IAE = -1001;
+    static final int ISE = -1002;
+    static final int UOE = -1003;
+    static final int NSE = -1004;
+    static final int OTHER = -1005;
+
+    private static final int MOST_PRINTED = 60;
+    private static int wrong;
+    private static int asked;
+
+    private Check() {
+    }
+
+    /** One call of the face; what it throws becomes one of the numbers above. */
+    interface Call {
+        int answer();
+    }
+
+    static int answerOf(Call call) {
+        try {
+            return call.answer();
+        } catch (RuntimeException e) {
+            return numberOf(e.getClass());
+        }
+    }
+
+    /** By the very class: one below it would be another exception than the document names. */
+    private static int numberOf(Class<?> thrown) {
+        if (thrown == IllegalArgumentException.class) {
+            return IAE;
+        }
+        if (thrown == IllegalStateException.class) {
+            return ISE;
+        }
+        if (thrown == UnsupportedOperationException.class) {
+            return UOE;
+        }
+        return thrown == java.util.NoSuchElementException.class ? NSE : OTHER;
+    }
+
+    static void due(String what, int want, Call call) {
+        same(what, want, answerOf(call));
+    }
+
+    static void same(String what, int want, int got) {
+        asked++;
+        if (got != want) {
+            wrong++;
+            if (wrong > MOST_PRINTED) {
+                return;
+            }
+            System.out.println(what + " answered " + got + ", due is " + want);
+        }
+    }
+
+    static void isTrue(String what, boolean got) {
+        same(what, 1, got ? 1 : 0);
+    }
+
+    static void isFalse(String what, boolean got) {
+        same(what, 0, got ? 1 : 0);
+    }
+
+    static void end() {
+        System.out.println(asked + " answers, " + wrong + " not as due");
+        if (wrong != 0) {
+            System.exit(1);
+        }
+    }
+
+    static void writeLine(RepairDesk desk, String line) {
+        for (char c : line.toCharArray()) {
+            desk.write(c);
+        }
+    }
+
+    static int rule(RepairDesk desk, String line) {
+        writeLine(desk, line);
+        return answerOf(desk::rule);
+    }
+
+    static int text(RepairDesk desk, String line) {
+        writeLine(desk, line);
+        return answerOf(desk::text);
+    }
+
+    static RepairDesk desk(String... rules) {
+        RepairDesk desk = new RepairDesk();
+        for (int i = 0; i < rules.length; i++) {
+            same("rule " + rules[i], i, rule(desk, rules[i]));
+        }
+        return desk;
+    }
+
+    static RepairDesk compiled(String... rules) {
+        RepairDesk desk = desk(rules);
+        isTrue("compile", answerOf(desk::compile) > 0);
+        return desk;
+    }
+
+    static String textOf(RepairDesk desk) {
+        StringBuilder letters = new StringBuilder();
+        for (int i = 0; desk.letter(i) >= 0; i++) {
+            letters.append((char) ('a' + desk.letter(i)));
+        }
+        return letters.toString();
+    }
+
+    static String stepsOf(RepairDesk desk, int k) {
+        StringBuilder steps = new StringBuilder();
+        for (int i = 0; desk.step(k, i) >= 0; i++) {
+            steps.append(desk.step(k, i));
+        }
+        return steps.toString();
+    }
+}
