@@ -686,7 +686,7 @@ public final class RepairDesk {
         private static final int HEIGHT = 512;
         // One parser for each step of a repair, one before them, one for the rest of the text.
         private static final int STACKS = MOST_STEPS + 2;
-        static final int SCRATCH = STACKS - 1;
+        private static final int SCRATCH = STACKS - 1;
         private static final int MOST_MOVES = 1000000;
 
         private final Grammar grammar;

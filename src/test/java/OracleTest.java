@@ -17,6 +17,7 @@ public final class OracleTest {
         {"A=BBBB", "B=CCCC", "C=DDDD", "D=EEEE", "E=FFFF", "F="},
         {"A=aBBA", "B=CCCC", "C=DDDD", "D=EEEE", "E=FFFF", "F=", "A="},
         {"A=BA", "A=B", "B=abbb"},
+        {"A=BBBC", "C=BBBD", "D=BBBE", "E=BBBF", "F=aA", "F=b", "B="},
     };
     private static long seed = 20261115L;
     private static int good;

@@ -16,6 +16,7 @@ public final class RepairTest {
         wrongNumbers();
         apply();
         sixteenLetters();
+        deepStacks();
         Check.end();
     }
 
@@ -228,5 +229,20 @@ public final class RepairTest {
         Check.isTrue("the text stays", Check.textOf(desk).equals(sixteen));
         Check.same("nothing is forgotten", 1, desk.price());
         applied(desk, 1, "abbbabbbabbaaaa");
+    }
+
+    /** Twelve names of empty rows stand before each letter, and none of them is closed before the last one. */
+    private static void deepStacks() {
+        RepairDesk desk = Check.compiled("A=BBBC", "C=BBBD", "D=BBBE", "E=BBBF", "F=aA", "F=b", "B=");
+        repairs(desk, "aaaaaaaa", 0, 1, "0:0", "1:0");
+        for (int length = 9; length <= 16; length++) {
+            int due = length;
+            Check.due("apply", due, () -> desk.apply(0));
+            Check.due("parse", due, desk::parse);
+            found(desk, "a row of a", 0, 1, "0:0", "1:0");
+        }
+        desk.cost(1, false, 3);
+        found(desk, "sixteen a", 3, 3, "1:0");
+        Check.due("seventeen", Check.ISE, () -> desk.apply(0));
     }
 }
