@@ -9,6 +9,9 @@ final class Check {
     private static final int MOST_PRINTED = 60;
     private static int wrong;
     private static int asked;
+    private static int sentences;
+    private static int askedBefore;
+    private static String sentence = "";
 
     private Check() {
     }
@@ -16,6 +19,22 @@ final class Check {
     /** One call of the face; what it throws becomes one of the numbers above. */
     interface Call {
         int answer();
+    }
+
+    /** From here on answers are asked about this sentence of the document, which is printed with a wrong one. */
+    static void about(String words) {
+        endOfSentence();
+        sentence = "[" + words + "] ";
+        sentences++;
+        askedBefore = asked;
+    }
+
+    /** A sentence of which nothing is asked has no test. */
+    private static void endOfSentence() {
+        if (sentences > 0 && asked == askedBefore) {
+            wrong++;
+            System.out.println(sentence + "nothing was asked");
+        }
     }
 
     static int answerOf(Call call) {
@@ -51,7 +70,7 @@ final class Check {
             if (wrong > MOST_PRINTED) {
                 return;
             }
-            System.out.println(what + " answered " + got + ", due is " + want);
+            System.out.println(sentence + what + " answered " + got + ", due is " + want);
         }
     }
 
@@ -64,7 +83,9 @@ final class Check {
     }
 
     static void end() {
-        System.out.println(asked + " answers, " + wrong + " not as due");
+        endOfSentence();
+        String about = sentences > 0 ? " about " + sentences + " sentences" : "";
+        System.out.println(asked + " answers" + about + ", " + wrong + " not as due");
         if (wrong != 0) {
             System.exit(1);
         }
@@ -98,6 +119,48 @@ final class Check {
         RepairDesk desk = desk(rules);
         isTrue("compile", answerOf(desk::compile) > 0);
         return desk;
+    }
+
+    /** A text is written and parsed: where it goes wrong. */
+    static void parses(RepairDesk desk, String text, int want) {
+        same("text " + text, text.length(), text(desk, text));
+        due("parse " + text, want, desk::parse);
+    }
+
+    /** The best repairs of a text; each is written as its steps, a colon, and its reach. */
+    static void repairs(RepairDesk desk, String text, int guard, int price, String... due) {
+        same("text " + text, text.length(), text(desk, text));
+        finds(desk, guard, price, due);
+    }
+
+    /** The best repairs of the text that is there. */
+    static void finds(RepairDesk desk, int guard, int price, String... due) {
+        String name = textOf(desk) + " guard " + guard;
+        due(name + ": repairs", due.length, () -> desk.repair(guard));
+        same(name + ": price", price, desk.price());
+        for (int k = 0; k < due.length; k++) {
+            int number = k;
+            String got = stepsOf(desk, k) + ":" + answerOf(() -> desk.reach(number));
+            isTrue(name + ": repair " + k + " is " + got + ", due " + due[k], got.equals(due[k]));
+        }
+        nothingFrom(desk, name, due.length);
+    }
+
+    /** There is no repair k. */
+    static void nothingFrom(RepairDesk desk, String name, int k) {
+        same(name + ": no step of " + k, -1, desk.step(k, 0));
+        due(name + ": no reach of " + k, NSE, () -> desk.reach(k));
+        due(name + ": none to apply at " + k, NSE, () -> desk.apply(k));
+    }
+
+    /** No repairs are found at all. */
+    static void nothingFound(RepairDesk desk, String name) {
+        same(name + ": no price", 0, desk.price());
+        nothingFrom(desk, name, 0);
+    }
+
+    static void isText(RepairDesk desk, String want) {
+        isTrue("the text is " + textOf(desk) + ", due " + want, textOf(desk).equals(want));
     }
 
     static String textOf(RepairDesk desk) {

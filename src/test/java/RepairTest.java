@@ -20,100 +20,81 @@ public final class RepairTest {
         Check.end();
     }
 
-    /** Each repair is written as its steps, a colon, and its reach. */
-    private static void repairs(RepairDesk desk, String text, int guard, int price, String... due) {
-        Check.same("text " + text, text.length(), Check.text(desk, text));
-        found(desk, text + " guard " + guard, guard, price, due);
-    }
-
-    private static void found(RepairDesk desk, String name, int guard, int price, String... due) {
-        Check.due(name + ": repairs", due.length, () -> desk.repair(guard));
-        Check.same(name + ": price", price, desk.price());
-        for (int k = 0; k < due.length; k++) {
-            int number = k;
-            String got = Check.stepsOf(desk, k) + ":" + Check.answerOf(() -> desk.reach(number));
-            Check.isTrue(name + ": repair " + k + " is " + got + ", due " + due[k], got.equals(due[k]));
-        }
-        Check.same(name + ": no more steps", -1, desk.step(due.length, 0));
-        Check.due(name + ": no more reaches", Check.NSE, () -> desk.reach(due.length));
-        Check.due(name + ": no more to apply", Check.NSE, () -> desk.apply(due.length));
-    }
-
     private static void ordinary() {
         RepairDesk desk = Check.compiled(PAIRS);
-        repairs(desk, "aab", 0, 1, "1:0");
-        repairs(desk, "aab", 3, 1, "1:0");
-        repairs(desk, "abb", 0, 1, "6:0");
-        repairs(desk, "aabab", 0, 1, "1:0", "6:1");
-        repairs(desk, "aabab", 1, 1, "6:1");
+        Check.repairs(desk, "aab", 0, 1, "1:0");
+        Check.repairs(desk, "aab", 3, 1, "1:0");
+        Check.repairs(desk, "abb", 0, 1, "6:0");
+        Check.repairs(desk, "aabab", 0, 1, "1:0", "6:1");
+        Check.repairs(desk, "aabab", 1, 1, "6:1");
         RepairDesk sums = Check.compiled("E=EaD", "E=D", "D=b", "D=cEd");
-        repairs(sums, "bbab", 1, 1, "0:3", "6:2");
-        repairs(sums, "", 0, 1, "1:0", "2:0");
-        repairs(sums, "", 1, 1, "1:0");
-        repairs(sums, "cb", 0, 1, "0:0", "3:0");
-        repairs(sums, "cb", 1, 1, "3:0");
+        Check.repairs(sums, "bbab", 1, 1, "0:3", "6:2");
+        Check.repairs(sums, "", 0, 1, "1:0", "2:0");
+        Check.repairs(sums, "", 1, 1, "1:0");
+        Check.repairs(sums, "cb", 0, 1, "0:0", "3:0");
+        Check.repairs(sums, "cb", 1, 1, "3:0");
     }
 
     private static void guards() {
         RepairDesk desk = Check.compiled(PAIRS);
-        repairs(desk, "ba", 0, 1, "0:1", "6:1");
+        Check.repairs(desk, "ba", 0, 1, "0:1", "6:1");
         // The rest "a" goes wrong at its end, one letter further: enough for 1, not for 2.
-        repairs(desk, "ba", 1, 1, "0:1", "6:1");
-        repairs(desk, "ba", 2, 2, "076:0", "66:0", "671:0");
-        repairs(desk, "ba", 3, 2, "076:0", "66:0", "671:0");
+        Check.repairs(desk, "ba", 1, 1, "0:1", "6:1");
+        Check.repairs(desk, "ba", 2, 2, "076:0", "66:0", "671:0");
+        Check.repairs(desk, "ba", 3, 2, "076:0", "66:0", "671:0");
         RepairDesk word = Check.compiled("A=abcB", "B=def");
-        repairs(word, "bcdeb", 0, 1, "0:4", "6:0");
-        repairs(word, "bcdeb", 1, 1, "0:4");
-        repairs(word, "bcdeb", 3, 1, "0:4");
+        Check.repairs(word, "bcdeb", 0, 1, "0:4", "6:0");
+        Check.repairs(word, "bcdeb", 1, 1, "0:4");
+        Check.repairs(word, "bcdeb", 3, 1, "0:4");
         // Not wrong at all is enough, however short the rest is.
-        repairs(word, "abcdf", 3, 1, "4:1");
+        Check.repairs(word, "abcdf", 3, 1, "4:1");
     }
 
     private static void formOfSteps() {
         RepairDesk word = Check.compiled("A=abc");
         // Another letter is PUT and TAKE, never TAKE and PUT.
-        repairs(word, "adc", 3, 2, "16:1");
-        repairs(word, "ca", 3, 3, "0176:0", "6712:0");
-        repairs(word, "", 3, 3, "012:0");
-        repairs(word, "ddd", 3, 0);
-        repairs(word, "abcddd", 3, 3, "666:0");
-        repairs(word, "abcdddd", 3, 0);
-        repairs(word, "abcdddd", 0, 1, "6:0");
+        Check.repairs(word, "adc", 3, 2, "16:1");
+        Check.repairs(word, "ca", 3, 3, "0176:0", "6712:0");
+        Check.repairs(word, "", 3, 3, "012:0");
+        Check.repairs(word, "ddd", 3, 0);
+        Check.repairs(word, "abcddd", 3, 3, "666:0");
+        Check.repairs(word, "abcdddd", 3, 0);
+        Check.repairs(word, "abcdddd", 0, 1, "6:0");
     }
 
     private static void passes() {
         RepairDesk three = Check.compiled("A=abcB", "B=deab");
-        repairs(three, "bceb", 3, 3, "077370:1");
+        Check.repairs(three, "bceb", 3, 3, "077370:1");
         RepairDesk four = Check.compiled("A=abcB", "B=defC", "C=ab");
-        repairs(four, "bcefb", 3, 0);
-        repairs(four, "bcefb", 2, 1, "0:2");
+        Check.repairs(four, "bcefb", 3, 0);
+        Check.repairs(four, "bcefb", 2, 1, "0:2");
     }
 
     private static void costs() {
         RepairDesk desk = Check.compiled(PAIRS);
         desk.cost(1, false, 2);
-        repairs(desk, "aabab", 0, 1, "6:1");
+        Check.repairs(desk, "aabab", 0, 1, "6:1");
         desk.cost(0, true, 2);
-        repairs(desk, "aabab", 0, 2, "1:0", "6:1");
+        Check.repairs(desk, "aabab", 0, 2, "1:0", "6:1");
         desk.cost(0, true, 3);
         desk.cost(1, false, 3);
-        repairs(desk, "aabab", 0, 3, "1:0", "6:1");
-        repairs(desk, "aabab", 1, 3, "6:1");
+        Check.repairs(desk, "aabab", 0, 3, "1:0", "6:1");
+        Check.repairs(desk, "aabab", 1, 3, "6:1");
         // Two of them would cost 6.
-        repairs(desk, "aa", 1, 0);
+        Check.repairs(desk, "aa", 1, 0);
         Check.isTrue("a cost", desk.cost(1, false, 1));
-        found(desk, "aa now", 1, 2, "11:0");
+        Check.finds(desk, 1, 2, "11:0");
     }
 
     private static void noRepairs() {
         RepairDesk desk = Check.compiled(PAIRS);
-        repairs(desk, "", 0, 0);
-        repairs(desk, "ab", 3, 0);
-        repairs(desk, "aaaa", 3, 0);
-        repairs(desk, "ccccaabb", 1, 0);
+        Check.repairs(desk, "", 0, 0);
+        Check.repairs(desk, "ab", 3, 0);
+        Check.repairs(desk, "aaaa", 3, 0);
+        Check.repairs(desk, "ccccaabb", 1, 0);
         RepairDesk none = Check.compiled("A=");
-        repairs(none, "", 0, 0);
-        repairs(none, "f", 3, 1, "6:0");
+        Check.repairs(none, "", 0, 0);
+        Check.repairs(none, "f", 3, 1, "6:0");
     }
 
     private static void refused() {
@@ -123,7 +104,7 @@ public final class RepairTest {
         desk.compile();
         int[] wrong = {-1, 4, Integer.MIN_VALUE, Integer.MAX_VALUE};
         for (int guard : wrong) {
-            repairs(desk, "aab", 0, 1, "1:0");
+            Check.repairs(desk, "aab", 0, 1, "1:0");
             Check.due("guard " + guard, Check.IAE, () -> desk.repair(guard));
             Check.same("forgets the price", 0, desk.price());
             Check.same("forgets the steps", -1, desk.step(0, 0));
@@ -146,17 +127,14 @@ public final class RepairTest {
         Check.due("compile", 1, () -> desk.compile() > 0 ? 1 : 0);
         Check.due("few", 5, () -> desk.repair(0));
         Check.due("forty-one", Check.UOE, () -> desk.repair(1));
-        Check.same("no price", 0, desk.price());
-        Check.same("no steps", -1, desk.step(0, 0));
-        Check.due("no reach", Check.NSE, () -> desk.reach(0));
-        Check.due("none to apply", Check.NSE, () -> desk.apply(0));
+        Check.nothingFound(desk, "forty-one");
         Check.isTrue("dearer letters", desk.cost(5, false, 2));
         Check.due("forty again", 40, () -> desk.repair(1));
     }
 
     private static void forgets() {
         RepairDesk desk = Check.compiled(PAIRS);
-        repairs(desk, "aabab", 0, 1, "1:0", "6:1");
+        Check.repairs(desk, "aabab", 0, 1, "1:0", "6:1");
         Check.due("parse", 3, desk::parse);
         Check.isTrue("cost", desk.cost(1, false, 3));
         Check.isTrue("write", desk.write('a'));
@@ -169,7 +147,7 @@ public final class RepairTest {
 
     private static void wrongNumbers() {
         RepairDesk desk = Check.compiled(PAIRS);
-        repairs(desk, "ba", 2, 2, "076:0", "66:0", "671:0");
+        Check.repairs(desk, "ba", 2, 2, "076:0", "66:0", "671:0");
         int[] wrong = {-1, 3, 40, 41, Integer.MIN_VALUE, Integer.MAX_VALUE};
         for (int k : wrong) {
             Check.same("step " + k, -1, desk.step(k, 0));
@@ -184,29 +162,27 @@ public final class RepairTest {
 
     private static void applied(RepairDesk desk, int k, String due) {
         Check.due("apply " + k, due.length(), () -> desk.apply(k));
-        Check.isTrue("text " + Check.textOf(desk) + ", due " + due, Check.textOf(desk).equals(due));
-        Check.same("no price", 0, desk.price());
-        Check.same("no steps", -1, desk.step(0, 0));
-        Check.due("no reach", Check.NSE, () -> desk.reach(0));
+        Check.isText(desk, due);
+        Check.nothingFound(desk, "applied");
         Check.due("not twice", Check.NSE, () -> desk.apply(k));
     }
 
     private static void apply() {
         RepairDesk desk = Check.compiled(PAIRS);
-        repairs(desk, "aabab", 0, 1, "1:0", "6:1");
+        Check.repairs(desk, "aabab", 0, 1, "1:0", "6:1");
         applied(desk, 0, "aabbab");
-        found(desk, "aabbab", 0, 1, "6:0");
+        Check.finds(desk, 0, 1, "6:0");
         applied(desk, 0, "aabbb");
         Check.due("parse", 4, desk::parse);
-        repairs(desk, "ba", 2, 2, "076:0", "66:0", "671:0");
+        Check.repairs(desk, "ba", 2, 2, "076:0", "66:0", "671:0");
         applied(desk, 0, "ab");
-        repairs(desk, "ba", 2, 2, "076:0", "66:0", "671:0");
+        Check.repairs(desk, "ba", 2, 2, "076:0", "66:0", "671:0");
         applied(desk, 1, "");
         Check.due("a sentence", -1, desk::parse);
-        repairs(desk, "ba", 2, 2, "076:0", "66:0", "671:0");
+        Check.repairs(desk, "ba", 2, 2, "076:0", "66:0", "671:0");
         applied(desk, 2, "ab");
         RepairDesk three = Check.compiled("A=abcB", "B=deab");
-        repairs(three, "bceb", 3, 3, "077370:1");
+        Check.repairs(three, "bceb", 3, 3, "077370:1");
         applied(three, 0, "abcdeab");
         Check.due("a sentence", -1, three::parse);
     }
@@ -224,7 +200,7 @@ public final class RepairTest {
         Check.isTrue("sixteen letters " + sixteen, sixteen.equals("abbbabbbabbaaaaa"));
         Check.same("the last letter", 0, desk.letter(15));
         Check.same("none behind it", -1, desk.letter(16));
-        found(desk, sixteen, 0, 1, "1:1", "6:0");
+        Check.finds(desk, 0, 1, "1:1", "6:0");
         Check.due("seventeen", Check.ISE, () -> desk.apply(0));
         Check.isTrue("the text stays", Check.textOf(desk).equals(sixteen));
         Check.same("nothing is forgotten", 1, desk.price());
@@ -234,15 +210,15 @@ public final class RepairTest {
     /** Twelve names of empty rows stand before each letter, and none of them is closed before the last one. */
     private static void deepStacks() {
         RepairDesk desk = Check.compiled("A=BBBC", "C=BBBD", "D=BBBE", "E=BBBF", "F=aA", "F=b", "B=");
-        repairs(desk, "aaaaaaaa", 0, 1, "0:0", "1:0");
+        Check.repairs(desk, "aaaaaaaa", 0, 1, "0:0", "1:0");
         for (int length = 9; length <= 16; length++) {
             int due = length;
             Check.due("apply", due, () -> desk.apply(0));
             Check.due("parse", due, desk::parse);
-            found(desk, "a row of a", 0, 1, "0:0", "1:0");
+            Check.finds(desk, 0, 1, "0:0", "1:0");
         }
         desk.cost(1, false, 3);
-        found(desk, "sixteen a", 3, 3, "1:0");
+        Check.finds(desk, 3, 3, "1:0");
         Check.due("seventeen", Check.ISE, () -> desk.apply(0));
     }
 }
