@@ -7,6 +7,8 @@ final class Check {
     static final int OTHER = -1005;
 
     private static final int MOST_PRINTED = 60;
+    /** More letters or steps than there ever are: a fault there is to be seen, not to hang the test. */
+    private static final int MOST_READ = 40;
     private static int wrong;
     private static int asked;
     private static int sentences;
@@ -165,7 +167,7 @@ final class Check {
 
     static String textOf(RepairDesk desk) {
         StringBuilder letters = new StringBuilder();
-        for (int i = 0; desk.letter(i) >= 0; i++) {
+        for (int i = 0; i < MOST_READ && desk.letter(i) >= 0; i++) {
             letters.append((char) ('a' + desk.letter(i)));
         }
         return letters.toString();
@@ -173,7 +175,7 @@ final class Check {
 
     static String stepsOf(RepairDesk desk, int k) {
         StringBuilder steps = new StringBuilder();
-        for (int i = 0; desk.step(k, i) >= 0; i++) {
+        for (int i = 0; i < MOST_READ && desk.step(k, i) >= 0; i++) {
             steps.append(desk.step(k, i));
         }
         return steps.toString();

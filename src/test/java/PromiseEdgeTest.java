@@ -591,10 +591,11 @@ public final class PromiseEdgeTest {
             int put = i % 2;
             Check.isTrue("some repairs", desk.repair(0) > 0);
             int k = 0;
-            while (desk.step(k, 0) != put) {
+            while (k < 40 && desk.step(k, 0) != put) {
                 k++;
             }
-            desk.apply(k);
+            int number = k;
+            Check.same("one letter more", i + 1, Check.answerOf(() -> desk.apply(number)));
         }
         Check.isText(desk, "abababababababab".substring(0, length));
         return desk;

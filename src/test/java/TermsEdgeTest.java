@@ -15,6 +15,7 @@ public final class TermsEdgeTest {
         leftOut();
         places();
         closing();
+        longChains();
         oneMoreRule();
         differentSets();
         conflictOfEnds();
@@ -174,6 +175,26 @@ public final class TermsEdgeTest {
         RepairDesk never = Check.compiled("A=BC", "B=b", "C=c");
         Check.same("items of a full C", 3 + 1 + 2 + 1 + 1 + 1, never.count(2));
         Check.parses(never, "b", 1);
+    }
+
+    /** What comes of a name is known only behind all rules after it, or before it. */
+    private static void longChains() {
+        Check.about("CLOSING a set of items: for each item with a name X behind its place .. each rule of X");
+        RepairDesk down = Check.compiled("A=B", "B=C", "C=D", "D=E", "E=F", "F=f");
+        Check.same("states of a chain", 8, down.count(1));
+        Check.same("items of a chain", 7 + 7, down.count(2));
+        Check.parses(down, "f", -1);
+        RepairDesk mixed = Check.compiled("A=C", "D=d", "B=D", "C=B");
+        Check.same("states of a mixed chain", 6, mixed.count(1));
+        Check.same("items of a mixed chain", 5 + 5, mixed.count(2));
+        Check.parses(mixed, "d", -1);
+        RepairDesk empty = Check.compiled("A=Ba", "B=C", "C=D", "D=E", "E=F", "F=");
+        Check.parses(empty, "a", -1);
+        RepairDesk follows = Check.compiled("A=EB", "E=e", "B=C", "C=D", "D=F", "F=f");
+        Check.same("states with f ahead", 9, follows.count(1));
+        Check.same("items with f ahead", 15, follows.count(2));
+        Check.parses(follows, "ef", -1);
+        Check.parses(follows, "ee", 1);
     }
 
     private static void oneMoreRule() {
